@@ -116,9 +116,10 @@ public final class SpectrumBoard {
             now += more;
         }
 
-        void waitForPicture() {
+        void waitForPictureIf(boolean waits) {
             int inFrame = now % FRAME;
-            if (inFrame < PICTURE_LINES * LINE && inFrame % LINE < PICTURE_PART) {
+            boolean drawn = inFrame < PICTURE_LINES * LINE && inFrame % LINE < PICTURE_PART;
+            if (waits && drawn) {
                 now += WAITS[now & 7];
             }
         }
@@ -130,55 +131,49 @@ public final class SpectrumBoard {
 
     /** The bytes, as they are (at, put) and as the Z80 reaches them in its time. */
     private static final class Memory {
-        private static final int SIZE = 4096;
+        private static final int LAST = 4095;
         private static final int ROM_END = 1024;
         private static final int WAITED_END = 2048;
         private static final int FETCH_TIME = 4;
         private static final int ACCESS_TIME = 3;
 
         private final Clock clock;
-        private final int[] bytes = new int[SIZE];
+        private final int[] bytes = new int[LAST + 1];
 
         Memory(Clock clock) {
             this.clock = clock;
         }
 
         static boolean has(int address) {
-            return address >= 0 && address < SIZE;
+            return address >= 0 && address <= LAST;
         }
 
         static int within(int address) {
-            return address & (SIZE - 1);
+            return address & LAST;
         }
 
         int at(int address) {
-            return bytes[address & (SIZE - 1)];
+            return bytes[address & LAST];
         }
 
         void put(int address, int value) {
-            bytes[address & (SIZE - 1)] = value & 255;
+            bytes[address & LAST] = value & 255;
         }
 
         int fetch(int address) {
-            if (isWaitedFor(address)) {
-                clock.waitForPicture();
-            }
+            clock.waitForPictureIf(isWaitedFor(address));
             clock.pass(FETCH_TIME);
             return at(address);
         }
 
         int read(int address) {
-            if (isWaitedFor(address)) {
-                clock.waitForPicture();
-            }
+            clock.waitForPictureIf(isWaitedFor(address));
             clock.pass(ACCESS_TIME);
             return at(address);
         }
 
         void write(int address, int value) {
-            if (isWaitedFor(address)) {
-                clock.waitForPicture();
-            }
+            clock.waitForPictureIf(isWaitedFor(address));
             clock.pass(ACCESS_TIME);
             if (within(address) >= ROM_END) {
                 put(address, value);
@@ -186,7 +181,7 @@ public final class SpectrumBoard {
         }
 
         private static boolean isWaitedFor(int address) {
-            int place = address & (SIZE - 1);
+            int place = address & LAST;
             return place >= ROM_END && place < WAITED_END;
         }
     }
@@ -243,7 +238,7 @@ public final class SpectrumBoard {
         }
 
         int input(int port, int above) {
-            giveWay(port);
+            clock.waitForPictureIf(isWaitedFor(port));
             int value = EMPTY_PORT;
             if (port == OWN_PORT) {
                 value = ALWAYS_ONE | tape.ear(clock.now) << 6 | keysOf(above);
@@ -253,7 +248,7 @@ public final class SpectrumBoard {
         }
 
         void output(int port, int value) {
-            giveWay(port);
+            clock.waitForPictureIf(isWaitedFor(port));
             if (port == OWN_PORT) {
                 border = value & 7;
                 moveSpeaker(value >> 4 & 1);
@@ -266,10 +261,8 @@ public final class SpectrumBoard {
             return kept ? changeTimes[k] : NONE;
         }
 
-        private void giveWay(int port) {
-            if ((port & 1) == 0) {
-                clock.waitForPicture();
-            }
+        private static boolean isWaitedFor(int port) {
+            return (port & 1) == 0;
         }
 
         private int keysOf(int above) {

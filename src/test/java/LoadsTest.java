@@ -134,6 +134,11 @@ public final class LoadsTest {
         CHECK.due("LD (nn),HL lower", board.peek(0x0C05), 0x38);
         CHECK.due("LD (nn),HL higher", board.peek(0x0C06), 0x0D);
         expect("LD (nn),HL", board, 3);
+        board = ready(0x22, 0x05, 0x0C);
+        board.set(Boards.HL, 0xFEDB);
+        board.run(1);
+        CHECK.due("LD (nn),HL odd lower", board.peek(0x0C05), 0xDB);
+        CHECK.due("LD (nn),HL high higher", board.peek(0x0C06), 0xFE);
         board = ready(0x2A, 0x05, 0x0C);
         Boards.load(board, 0x0C05, 0x12, 0x98);
         board.run(1);

@@ -61,12 +61,13 @@ public final class MemoryTest {
     }
 
     private static void wrongNumbersAreRefused() {
-        SpectrumBoard board = new SpectrumBoard();
         for (int address : new int[] {-1, 4096, 65535, Integer.MIN_VALUE, Integer.MAX_VALUE}) {
+            SpectrumBoard board = new SpectrumBoard();
             CHECK.wrongNumber("poke at " + address, board, () -> board.poke(address, -1, 4));
             CHECK.wrongNumber("peek at " + address, board, () -> board.peek(address));
         }
         for (int many : new int[] {0, -1, 5, Integer.MIN_VALUE, Integer.MAX_VALUE}) {
+            SpectrumBoard board = new SpectrumBoard();
             CHECK.wrongNumber("poke of " + many, board, () -> board.poke(0, -1, many));
         }
     }

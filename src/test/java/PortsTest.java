@@ -67,10 +67,13 @@ public final class PortsTest {
         for (int bits : new int[] {-1, 32, Integer.MIN_VALUE, Integer.MAX_VALUE}) {
             CHECK.wrongNumber("key to " + bits, board, () -> board.key(0, bits));
         }
-        CHECK.due("row 0 behind them", in(board, 254, 0), 160 | 31);
-        board.key(0, 0);
-        board.key(7, 31);
-        CHECK.due("the edges of both", in(board, 254, 0), 160);
+        SpectrumBoard kept = new SpectrumBoard();
+        CHECK.wrongNumber("key to 32", kept, () -> kept.key(0, 32));
+        CHECK.wrongNumber("key to -32", kept, () -> kept.key(0, -32));
+        CHECK.due("row 0 behind them", in(kept, 254, 0), 160 | 31);
+        kept.key(0, 0);
+        kept.key(7, 31);
+        CHECK.due("the edges of both", in(kept, 254, 0), 160);
     }
 
     private static void edgesAreCounted() {

@@ -49,14 +49,20 @@ public final class RegistersTest {
         CHECK.due("PC goes on", board.get(Boards.PC), Boards.CODE + 2);
     }
 
-    private static void wrongNumbersAreRefused() {
+    private static SpectrumBoard halted() {
         SpectrumBoard board = Boards.with(0x76);
         board.run(1);
+        return board;
+    }
+
+    private static void wrongNumbersAreRefused() {
         for (int pair : new int[] {-1, 10, Integer.MIN_VALUE, Integer.MAX_VALUE}) {
+            SpectrumBoard board = halted();
             CHECK.wrongNumber("set of pair " + pair, board, () -> board.set(pair, 1));
             CHECK.wrongNumber("get of pair " + pair, board, () -> board.get(pair));
         }
         for (int value : new int[] {-1, 65536, Integer.MIN_VALUE, Integer.MAX_VALUE}) {
+            SpectrumBoard board = halted();
             CHECK.wrongNumber("set to " + value, board, () -> board.set(1, value));
             CHECK.wrongNumber("set of PC to " + value, board, () -> board.set(9, value));
         }

@@ -104,13 +104,14 @@ public final class RunTest {
     }
 
     private static void wrongNumbersAreRefused() {
-        SpectrumBoard board = new SpectrumBoard();
         for (int more : new int[] {0, -1, 20_001, Integer.MIN_VALUE, Integer.MAX_VALUE}) {
+            SpectrumBoard board = new SpectrumBoard();
             CHECK.wrongNumber("run(" + more + ")", board, () -> board.run(more));
         }
         for (int what : new int[] {-1, 8, Integer.MIN_VALUE, Integer.MAX_VALUE}) {
+            SpectrumBoard board = new SpectrumBoard();
             CHECK.wrongNumber("count(" + what + ")", board, () -> board.count(what));
         }
-        CHECK.due("run(20000)", board.run(20_000), true);
+        CHECK.due("run(20000)", new SpectrumBoard().run(20_000), true);
     }
 }
