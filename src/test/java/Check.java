@@ -25,10 +25,15 @@ final class Check {
         due(what, got ? 1 : 0, want ? 1 : 0);
     }
 
-    /** The call throws that exception, and the board answers the same before and behind it. */
-    void refused(String what, SpectrumBoard board, Class<?> exception, Call call) {
+    void same(String what, String got, String want) {
         asked++;
-        String before = Boards.answers(board);
+        if (!got.equals(want)) {
+            fail(what + " left " + got + ", due is " + want);
+        }
+    }
+
+    void thrown(String what, Class<?> exception, Call call) {
+        asked++;
         try {
             call.make();
             fail(what + " threw nothing, due is " + exception.getSimpleName());
@@ -37,9 +42,13 @@ final class Check {
                 fail(what + " threw " + e + ", due is " + exception.getSimpleName());
             }
         }
-        if (!before.equals(Boards.answers(board))) {
-            fail(what + " threw, but changed something");
-        }
+    }
+
+    /** The call throws that exception, and the board answers the same before and behind it. */
+    void refused(String what, SpectrumBoard board, Class<?> exception, Call call) {
+        String before = Boards.answers(board);
+        thrown(what, exception, call);
+        same(what, Boards.answers(board), before);
     }
 
     void wrongNumber(String what, SpectrumBoard board, Call call) {

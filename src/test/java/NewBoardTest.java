@@ -5,11 +5,15 @@ public final class NewBoardTest {
     public static void main(String[] args) {
         registersAndCountsAreZero();
         memoryIsZero();
-        noKeyIsHeldAndNoEdgeCame();
+        noKeyIsHeld();
+        noEdgeCame();
+        interruptsAreOff();
+        firstRunIsFromZeroOn();
         boardsAreApart();
         CHECK.end();
     }
 
+    // Terms: T "0 at first", REGISTERS "all 0 at first"; promise 1: "BORDER and SPEAKER 0"
     private static void registersAndCountsAreZero() {
         SpectrumBoard board = new SpectrumBoard();
         for (int pair = 0; pair < 10; pair++) {
@@ -21,6 +25,7 @@ public final class NewBoardTest {
         CHECK.due("change(0)", board.change(0), SpectrumBoard.NONE);
     }
 
+    // "MEMORY of 0"
     private static void memoryIsZero() {
         for (int first = 0; first < 4096; first += 500) {
             SpectrumBoard board = new SpectrumBoard();
@@ -30,14 +35,50 @@ public final class NewBoardTest {
         }
     }
 
-    private static void noKeyIsHeldAndNoEdgeCame() {
+    private static int in(SpectrumBoard board, int above) {
+        Boards.load(board, Boards.CODE, 0xDB, 0xFE);
+        board.set(Boards.PC, Boards.CODE);
+        board.set(Boards.AF, above << 8);
+        board.run(1);
+        return Boards.a(board);
+    }
+
+    // "all ROWS 31 (no key)"
+    private static void noKeyIsHeld() {
         for (int row = 0; row < 8; row++) {
-            SpectrumBoard board = Boards.with(0xDB, 0xFE);
-            board.set(Boards.AF, (255 & ~(1 << row)) << 8);
-            board.run(1);
-            CHECK.due("IN of row " + row, Boards.a(board), 160 | 31);
+            CHECK.due("IN of row " + row, in(new SpectrumBoard(), 255 & ~(1 << row)), 160 | 31);
         }
+        CHECK.due("IN of all rows", in(new SpectrumBoard(), 0), 160 | 31);
+    }
+
+    // "no EDGES"
+    private static void noEdgeCame() {
         CHECK.due("the first edge", new SpectrumBoard().edge(1), 1);
+        CHECK.due("EAR at first", in(new SpectrumBoard(), 255), 160 | 31);
+        SpectrumBoard board = new SpectrumBoard();
+        for (int k = 0; k < 20; k++) {
+            board.run(20_000);
+            CHECK.due("EAR later", in(board, 255), 160 | 31);
+        }
+    }
+
+    // Terms: interrupts "off at first"
+    private static void interruptsAreOff() {
+        SpectrumBoard board = new SpectrumBoard();
+        board.run(10_000);
+        CHECK.due("they are on", board.count(5), 0);
+        CHECK.due("they came", board.count(6), 0);
+        CHECK.due("SP", board.get(Boards.SP), 0);
+    }
+
+    // MEMORY of 0 is NOP all over.
+    private static void firstRunIsFromZeroOn() {
+        SpectrumBoard board = new SpectrumBoard();
+        CHECK.due("run(1)", board.run(1), true);
+        CHECK.due("PC", board.get(Boards.PC), 1);
+        CHECK.due("T", board.count(0), 4);
+        CHECK.due("instructions", board.count(7), 1);
+        CHECK.due("not in HALT", board.count(4), 0);
     }
 
     private static void boardsAreApart() {
