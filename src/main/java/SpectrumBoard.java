@@ -257,8 +257,11 @@ public final class SpectrumBoard {
         }
 
         int timeOfChange(int k) {
-            boolean kept = k >= 0 && k < KEPT_CHANGES && k < speakerChanges;
-            return kept ? changeTimes[k] : NONE;
+            return isKept(k) && k < speakerChanges ? changeTimes[k] : NONE;
+        }
+
+        private static boolean isKept(int k) {
+            return k >= 0 && k < KEPT_CHANGES;
         }
 
         private static boolean isWaitedFor(int port) {
@@ -280,7 +283,7 @@ public final class SpectrumBoard {
                 return;
             }
             speaker = place;
-            if (speakerChanges < KEPT_CHANGES) {
+            if (isKept(speakerChanges)) {
                 changeTimes[speakerChanges] = clock.now;
             }
             speakerChanges++;
